@@ -463,7 +463,7 @@ public final class AloneTogether {
     }
 
     private static boolean noHour(int h) {
-        return !within(h, 0, HOURS - 1);
+        return h < 0 || h >= HOURS;
     }
 
     private static boolean noSheet(int s) {
@@ -620,16 +620,11 @@ public final class AloneTogether {
                 lot = lot * LOT_TIMES % LOT_MODULO;
                 if (lot % 10 < often) thought[m].doings[h] = COUGH;
             }
-            sum += daysInThought(h);
-        }
-        return sum;
-    }
-
-    private int daysInThought(int h) {
-        int sum = 0;
-        for (int m = 0; m < menCount; m++) {
-            int mateIs = mateNumber(m);
-            if (mateIs >= 0) sum += rules.daysIn(thought[m], thought[mateIs], h);
+            // All have drawn for the HOUR now; a cough is a sign to the MATE, too.
+            for (int m = 0; m < menCount; m++) {
+                int mateIs = mateNumber(m);
+                if (mateIs >= 0) sum += rules.daysIn(thought[m], thought[mateIs], h);
+            }
         }
         return sum;
     }
@@ -643,7 +638,7 @@ public final class AloneTogether {
 
         static int signs(int kind, int doing) {
             switch (kind) {
-                case RESTLESS: return Math.min(doing + 1, DOINGS - 1);
+                case RESTLESS: return doing < 5 ? doing + 1 : 5;
                 case MUTE: return doing > 2 ? 0 : doing + 1;
                 case STILL:
                 case LIFER: return doing < 3 ? 0 : doing;
@@ -855,6 +850,7 @@ public final class AloneTogether {
 
     /** A TEXT as steps on a stack, so that a long sum needs no depth. A sign's step is the sign itself. */
     private static final class Text {
+        // Steps are numbered as the reader's TOKENS are: OR, AND, NOT by their places among its KEYS.
         static final int NUMBER = 2, NAME = 3, OR = 7, AND = 8, NOT = 9, NEGATE = 10;
         private static final int STEP_BITS = 6, STEP_MASK = 63;
 
@@ -891,7 +887,7 @@ public final class AloneTogether {
         }
 
         private static int named(int name, int[] names) {
-            return within(name, 0, names.length - 1) ? names[name] : 0;
+            return name >= 0 && name < names.length ? names[name] : 0;
         }
 
         private static int turned(int step, int a) {

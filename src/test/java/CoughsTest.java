@@ -163,12 +163,12 @@ public final class CoughsTest {
     private static void imageOfFewer() {
         AloneTogether x = pictured();
         otherwise(x);
-        x.put(3, 1, 5);
+        for (int h = 0; h < 12; h++) x.put(3, h, 5);
         x.put(3, 12, 99);
         x.back();
         CHECK.due("another one comes", x.man(11), 3);
         CHECK.due("of his own KIND", x.told(3, 13) * 10 + x.told(3, 14), 11);
-        CHECK.due("with nothing done", x.told(3, 1), 0);
+        for (int h = 0; h < 12; h++) CHECK.due("with nothing done", x.told(3, h), 0);
         CHECK.due("with no TERM", x.told(3, 12), 0);
         CHECK.due("at the next PLACE", x.told(3, 15), 3);
         CHECK.due("a new image", x.image(), 4);

@@ -37,9 +37,9 @@ public final class HostTest {
         }
         CHECK.due("sheet of 0", x.sheet(3, 0, 0), 1);
         CHECK.due("a row without a number", x.cell(3, 0, 1), -12);
-        x.cell(0, 3, 5);
+        for (int i = 0; i < 5; i++) x.cell(0, i, 5);
         CHECK.due("sheet anew", x.sheet(0, 0, 4), 1);
-        CHECK.due("all 0", number(x, 0, 0, 3), 0);
+        for (int i = 0; i < 4; i++) CHECK.due("all 0", number(x, 0, 0, i), 0);
         CHECK.due("missing", x.sheet(0, -1, 41), 1);
         CHECK.due("it is missing", x.cell(0, 0, 1), -11);
         CHECK.due("missing again", x.sheet(0, -1, -5), 1);

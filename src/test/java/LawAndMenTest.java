@@ -94,11 +94,15 @@ public final class LawAndMenTest {
         CHECK.due("a fault is no text", x.count(2), 2);
         CHECK.due("text 2", Check.text(x, "counts 4;pays 5;sees 6;"), 2);
         CHECK.due("a text is not the law yet", x.count(3), 0);
+        for (int i = 0; i < 2; i++) CHECK.due("long faults", Check.text(x, "counts 1" + "+1".repeat(70) + ";"), -249);
+        CHECK.due("text 3", Check.text(x, "counts 7;pays 8;sees 9;"), 3);
         x.man(0);
         x.force(1);
         CHECK.due("text 1 says", x.asks(0, 0, 0) * 100 + x.asks(1, 0, 0) * 10 + x.asks(2, 0, 0), 123);
         x.force(2);
         CHECK.due("text 2 says", x.asks(0, 0, 0) * 100 + x.asks(1, 0, 0) * 10 + x.asks(2, 0, 0), 456);
+        x.force(3);
+        CHECK.due("text 3 says", x.asks(0, 0, 0) * 100 + x.asks(1, 0, 0) * 10 + x.asks(2, 0, 0), 789);
     }
 
     private static void textFull() {
@@ -131,6 +135,9 @@ public final class LawAndMenTest {
         fault("counts 1;pays 1;sees 1", 22);
         fault("counts 1;pays 1;sees 1;;", 23);
         fault("counts 1;pays 1;sees 1; counts", 24);
+        fault("counts 1;pays 1;sees 1;?", 23);
+        fault("counts 1;pays 1;sees 1;12345", 23);
+        fault("counts 1;pays 1;sees 1; none", 24);
         fault("counts 12345;", 7);
         fault("counts 1+00001;", 9);
         fault("counts 1 2;", 9);
@@ -143,6 +150,10 @@ public final class LawAndMenTest {
         fault("counts mine2;", 11);
         fault("counts 2mine;", 8);
         fault("counts m_ine;", 7);
+        fault("counts (none);", 8);
+        fault("counts -none;", 8);
+        fault("counts not none;", 11);
+        fault("counts 1 + none;", 11);
         fault("counts pays;", 7);
         fault("counts or 1;", 7);
         fault("counts mine ! ;", 12);
@@ -254,6 +265,10 @@ public final class LawAndMenTest {
         counted("1+1=2*1", 1);
         counted("5", 5);
         counted("0009", 9);
+        // As much as can wait for what comes behind it: five to each of six levels.
+        String level = "0 or 1 and 0<0+1*(";
+        counted(level.repeat(5) + "0 or 1 and 0<0+1*5" + ")".repeat(5), 1);
+        counted(level.repeat(5) + "0 or 1 and 0<0+1*0" + ")".repeat(5), 0);
         counted("4096*4096*256 + 7", 7);
         counted("4096*4096*128 < 0", 1);
         counted("0 < 4096*4096*128 - 1", 1);
