@@ -246,9 +246,9 @@ public final class AloneTogether {
         if (!within(n, 0, 9)) return UNFIT;
         int digits = 0;
         for (int h = 0; h < n; h++) {
-            int quiet = quietDoings(m, h);
-            if (quiet == 0) return NONE;
-            digits = 10 * digits + Integer.numberOfTrailingZeros(quiet) + 1;
+            int least = leastOf(quietDoings(m, h));
+            if (least == NONE) return NONE;
+            digits = 10 * digits + least + 1;
         }
         return digits;
     }
@@ -568,6 +568,13 @@ public final class AloneTogether {
         return bits;
     }
 
+    private static int leastOf(int doings) {
+        for (int d = 0; d < DOINGS; d++) {
+            if (has(doings, d)) return d;
+        }
+        return NONE;
+    }
+
     private static long inLowestTerms(long above, long below, int part) {
         long divisor = commonDivisor(above, below);
         if (divisor == 0) return NO;
@@ -763,6 +770,9 @@ public final class AloneTogether {
 
     /** What each two MEN would have of a day, were they MATES: ways to lie are sums of these. */
     private static final class Pairs {
+        // ALL is 99 for each of 6 MEN in each of 12 HOURS at most.
+        private static final int ABOVE_ALL = 10000;
+
         private final int[] days = new int[MOST_MEN * MOST_MEN];
         private int many;
         int least;
@@ -785,7 +795,7 @@ public final class AloneTogether {
         }
 
         void lieBest() {
-            least = Integer.MAX_VALUE;
+            least = ABOVE_ALL;
             bestDigits = 0;
             lie(this, 0, 0, NONE, 0, 0);
         }
@@ -908,7 +918,7 @@ public final class AloneTogether {
         }
     }
 
-    /** Reads a TEXT from a tape, TOKEN by TOKEN, a method for each rule of its grammar; open keeps them from going deep. */
+    /** Reads a TEXT, TOKEN by TOKEN, a method for each rule of its grammar; open keeps them from going deep. */
     private static final class TextReader {
         // The KEYS come in the order of word(), the first of them being FIRST_KEY. STRAY fits nowhere.
         private static final int END = 0, STRAY = 1, FIRST_KEY = 4, KEYS = 6, WORDS = 12, MOST_DIGITS = 4;
