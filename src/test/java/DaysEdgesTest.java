@@ -105,6 +105,12 @@ public final class DaysEdgesTest {
         last.watches(2047);
         int[] unwatched = {0, 1, 11, 99};
         for (int what = 0; what < 4; what++) CHECK.due(last, "day(0, " + what + ")", unwatched[what]);
+        // A MUTE has COMPANY in each HOUR, and in none beside them.
+        AloneTogether mute = new AloneTogether();
+        mute.man(39);
+        mute.man(0);
+        int[] ofMute = {0, 12, 0, 9};
+        for (int what = 0; what < 4; what++) CHECK.due(mute, "day(0, " + what + ")", ofMute[what]);
         refused("day(0, %d)", new String[] {"-1", "4", "MIN", "MAX"}, -7);
         nobody("day(%d, 0)", -5);
     }
@@ -170,6 +176,10 @@ public final class DaysEdgesTest {
             CHECK.due(first, "better(" + m + ", 0)", 0);
             CHECK.due(first, "better(" + m + ", 1)", 24 * 9 - 1);
         }
+        // The more he does, the better, up to the last DOING.
+        AloneTogether most = of(2, "1", "9 - mine", "0");
+        CHECK.due(most, "better(0, 0)", 5);
+        CHECK.due(most, "better(0, 1)", 24 * 9 - 5);
         // ALL is least, not his own DAYS.
         AloneTogether mates = of(2, "his", "his", "0");
         Check.doings(mates, 0, 0, 3);

@@ -1,3 +1,4 @@
+import java.util.Arrays;
 import java.util.function.Supplier;
 
 /** The edges that promises 35 to 39 name. A refused call changes nothing, but where it is told: each is made in houses told whole. */
@@ -73,6 +74,12 @@ public final class HostEdgesTest {
             CHECK.due(x, "sheet(1, " + sort + ", 3)", 1);
             numbersAre(x, 1, sort, 0, 0, 0);
         }
+        AloneTogether longest = new AloneTogether();
+        int[] sevens = new int[40];
+        Arrays.fill(sevens, 7);
+        Check.row(longest, 2, 1, sevens);
+        CHECK.due(longest, "sheet(2, 1, 40)", 1);
+        numbersAre(longest, 2, 1, new int[40]);
     }
 
     private static void sheetMissing() {

@@ -16,6 +16,7 @@ public final class LawAndMenEdgesTest {
         feedOneByOne();
         text();
         textOfAFault();
+        textBehindAFault();
         textFull();
         force();
         asks();
@@ -166,6 +167,18 @@ public final class LawAndMenEdgesTest {
         CHECK.due(x, "count(2)", 2);
         CHECK.due(x, "force(2)", -2);
         CHECK.due("the next TEXT", Check.text(x, FITS), 2);
+    }
+
+    /** What stood ahead of a FAULT is no part of the next TEXT, however long both are. */
+    private static void textBehindAFault() {
+        CHECK.of("Promise 5: THE TAPE, which is empty then (by a FAULT, too)");
+        AloneTogether x = new AloneTogether();
+        x.man(0);
+        for (int i = 0; i < 3; i++) CHECK.due("a long FAULT", Check.text(x, "counts 1" + "+1".repeat(72) + ";"), -253);
+        CHECK.due("a long TEXT", Check.text(x, "counts 1" + "+1".repeat(60) + ";pays 7;sees 8;"), 1);
+        x.force(1);
+        int[] due = {61, 7, 8};
+        for (int part = 0; part < 3; part++) CHECK.due(x, "asks(" + part + ", 0, 0)", due[part]);
     }
 
     private static AloneTogether sixTexts(String tape) {

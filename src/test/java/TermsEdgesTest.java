@@ -10,6 +10,7 @@ public final class TermsEdgesTest {
     private static final String[] OF_A_SHEET = {"judge(%d, 0)", "kinds(%d, 0, 0)", "did(%d, 0, 0)", "laws(%d, 0)", "whose(%d)"};
 
     public static void main(String[] args) {
+        lastCall();
         hours();
         doings();
         watched();
@@ -54,6 +55,23 @@ public final class TermsEdgesTest {
         AloneTogether x = new AloneTogether();
         for (int kindMore : kindMores) x.man(kindMore);
         return x;
+    }
+
+    private static void lastCall() {
+        CHECK.of("An object is used for at most 512 calls after it has been made");
+        String[] calls = {"image()", "put(0, 3, 5)", "feed(5, 99, 111, 117, 110, 116)", "text()", "watches(8)", "sheet(0, 2, 40)",
+            "cell(0, 39, 7)", "copy(0, 20, 0, 0, 20)", "live()", "put(1, 3, 4)", "beds(0)", "odds(99999, 40, 5, 9, 0)",
+            "back()", "film(1, 0, 12)", "drawn(5, 5)", "menBy(0, 2, 41, 1)", "force(0)", "move(0, 1)", "guard(3, 0)"};
+        String[] last = {"count(0)", "man(0)", "watches(8)", "put(0, 12, 9)", "told(0, 3)", "all()", "text()", "image()", "back()",
+            "sheet(3, 0, 40)", "whose(1)", "swap(1)", "taken(9, 6)"};
+        for (String call : last) {
+            AloneTogether many = of(0, 10), few = of(0, 10);
+            // MEN, then 509 calls, and the last one: 512. Every second round undoes what the first one did.
+            for (int i = 0; i < 2 * calls.length; i++) Calls.answer(few, calls[i % calls.length]);
+            for (int i = 0; i < 26 * calls.length; i++) Calls.answer(many, calls[i % calls.length]);
+            for (int i = 0; i < 509 - 26 * calls.length; i++) many.count(i % 5);
+            CHECK.due("call 512, " + call, Calls.answer(many, call), Calls.answer(few, call));
+        }
     }
 
     private static void hours() {
@@ -460,6 +478,15 @@ public final class TermsEdgesTest {
             Check.doings(y, 1, doing);
             CHECK.due(y, "drawn(5, 10)", 2);
             CHECK.due(y, "drawn(5, 0)", doing == 4 ? 2 : 0);
+        }
+        // A cough is a SIGN to the MATE, too, as it is one of such a KIND.
+        int[] signs = {4, 5, 4, 0, 4, 4};
+        for (int kind = 0; kind < 6; kind++) {
+            AloneTogether y = of(1, 10 * kind);
+            y.watches(4095);
+            Check.law(y, "more", "his", "0");
+            CHECK.due(y, "drawn(5, 0)", kind == 1 || kind == 3 ? 12 : 0);
+            CHECK.due(y, "drawn(5, 10)", 12 * signs[kind]);
         }
     }
 

@@ -461,9 +461,9 @@ public final class TextEdgesTest {
         x.put(0, 12, 9999);
         Check.doings(x, 0, 5, 0, 0, 0, 0, 0, 0, 0, 0, 0, 0, 5);
         Check.doings(x, 1, 0, 0, 0, 0, 0, 0, 0, 0, 0, 0, 0, 5);
-        Check.law(x, "10 * mine + his", "10 * watched + hour", "(term = 9999) * 10 + more");
+        Check.law(x, "10 * mine + his", "10 * watched + hour + 50", "(term = 9999) * 10 + more");
         x.watches(2048);
-        int[] due = {51, 0, 19, 55, 21, 19, 0, 0, 0, 0, 21, 0};
+        int[] due = {51, 50, 19, 55, 71, 19, 0, 50, 0, 0, 71, 0};
         for (int i = 0; i < 12; i++) {
             int m = i / 6 * 2, h = i / 3 % 2 * 11;
             CHECK.due(x, "asks(" + i % 3 + ", " + m + ", " + h + ")", due[i]);
@@ -509,6 +509,9 @@ public final class TextEdgesTest {
             says(yes + " or " + yes, 1);
         }
         says("(2 and 3) + (2 or 3) + (not 0) + (2 < 3) + (2 = 2)", 5);
+        for (String no : new String[] {"2 and 0", "0 and 2", "0 and 0", "0 or 0", "not 2", "3 < 2", "2 < 2", "2 = 3"}) {
+            says("(" + no + ") + 50", 50);
+        }
     }
 
     private static void sixTexts() {

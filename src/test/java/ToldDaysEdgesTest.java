@@ -246,6 +246,14 @@ public final class ToldDaysEdgesTest {
         CHECK.due(x, "laws(0, 0)", 63);
         told(x, 6);
         CHECK.due(x, "laws(0, 0)", 0);
+        // All else is as it is, WATCHED too, whatever was asked ahead.
+        AloneTogether y = told(of(2, "1 + watched"), 1, 2);
+        y.watches(2);
+        CHECK.due(y, "laws(0, 0)", 2);
+        y.guard(1, 0);
+        CHECK.due(y, "laws(0, 0)", 2);
+        y.watches(3);
+        CHECK.due(y, "laws(0, 0)", 0);
         CHECK.stays(THREE, "laws(0, 0)", 2);
         CHECK.stays(FULL, "laws(1, 5)", 63);
         CHECK.stays(FULL, "laws(2, 0)", 32);
@@ -398,8 +406,8 @@ public final class ToldDaysEdgesTest {
 
     private static void oddsLowestTerms() {
         CHECK.of("Promise 32: part 0 above, 1 below the line, in lowest terms");
-        AloneTogether x = of(2, "mine = 4");
         for (int seeds = 1; seeds <= 40; seeds++) {
+            AloneTogether x = of(2, "mine = 4");
             for (int days = 10; days < 14; days++) {
                 int few = few(x, 7, seeds, 5, days), by = seeds;
                 while (few % by != 0 || seeds % by != 0) by--;
@@ -408,6 +416,7 @@ public final class ToldDaysEdgesTest {
             }
         }
         // None of them, and each of them.
+        AloneTogether x = of(2, "mine = 4");
         CHECK.due(x, "odds(7, 40, 10, 23, 0)", 0);
         CHECK.due(x, "odds(7, 40, 10, 23, 1)", 1);
         CHECK.due(x, "odds(7, 40, 10, 24, 0)", 1);
